@@ -481,7 +481,7 @@ public final class NailRules {
             int furthest = 0;
             for (int what = 0; what < WORDS; what++) {
                 String word = wordOf(what);
-                int alike = alike(word);
+                int alike = unitsAlike(word);
                 if (alike == word.length()) {
                     next += alike;
                     return what;
@@ -492,7 +492,7 @@ public final class NailRules {
             return NONE;
         }
 
-        private int alike(String word) {
+        private int unitsAlike(String word) {
             int alike = 0;
             while (alike < word.length() && look(next + alike) == word.charAt(alike)) {
                 alike++;

@@ -63,6 +63,10 @@ public final class MemberTest {
         Check.yes("upright, its foot", rules.in(1, 7, -20));
         Check.no("upright, below its foot", rules.in(1, 10, -21));
         Check.no("upright, above it", rules.in(1, 10, 81));
+        rules.member(0, 0, 1, 0, 10000);
+        Check.no("just before the shortest", rules.in(2, -1, 0));
+        Check.yes("far beside the shortest", rules.in(2, 1, 5000));
+        Check.no("just beyond the shortest", rules.in(2, 2, 5000));
     }
 
     private static void inASlantingMember() {
